@@ -15,13 +15,16 @@ public final class ModelTests {
         private static final long serialVersionUID = 1;
     }
 
-    /** What a law asks: x, y, village, seen, was, left, above, taste, year by name. */
+    /** What a law asks, by its place among the words. */
+    private static final List<String> WORDS =
+        List.of("x", "y", "village", "seen", "was", "left", "above", "taste", "year");
+
     private interface Sum {
-        long of(Map<String, Long> asked) throws Broken;
+        long of(long[] asked) throws Broken;
     }
 
     private interface Test {
-        boolean of(Map<String, Long> asked) throws Broken;
+        boolean of(long[] asked) throws Broken;
     }
 
     private static final class Clause {
@@ -111,10 +114,9 @@ public final class ModelTests {
                 case "or": return 'o';
                 case "and": return 'a';
                 case "not": return 'n';
-                case "x": case "y": case "village": case "seen": case "was": case "left":
-                case "above": case "taste": case "year": return 'N';
                 default: break;
             }
+            if (WORDS.contains(text)) return 'N';
             if (group(text.charAt(0)) == 2) return new java.math.BigInteger(text).bitLength() < 20
                 && Integer.parseInt(text) <= 1000 ? 'N' : '?';
             return "()[]<>=+-*/;".contains(text) ? text.charAt(0) : '?';
@@ -241,7 +243,8 @@ public final class ModelTests {
                 long value = Long.parseLong(text);
                 return asked -> value;
             }
-            return asked -> asked.get(text);
+            int word = WORDS.indexOf(text);
+            return asked -> asked[word];
         }
     }
 
@@ -433,16 +436,9 @@ public final class ModelTests {
                 && y >= village.y && y < village.y + village.tall;
             Long told = null;
             if (k.force != NONE) {
-                Map<String, Long> asked = new LinkedHashMap<>();
-                asked.put("x", (long) x);
-                asked.put("y", (long) y);
-                asked.put("village", (long) v);
-                asked.put("seen", sees ? 1L : 0L);
-                asked.put("was", sees ? seen[cell] : -1L);
-                asked.put("left", x == 0 ? -1L : out[cell - 1]);
-                asked.put("above", y == 0 ? -1L : out[cell - 6]);
-                asked.put("taste", (long) village.taste);
-                asked.put("year", (long) k.terms[1]);
+                long left = x == 0 ? -1 : out[cell - 1];
+                long above = y == 0 ? -1 : out[cell - 6];
+                long[] asked = {x, y, v, sees ? 1 : 0, sees ? seen[cell] : -1, left, above, village.taste, k.terms[1]};
                 for (Clause clause : k.laws.get(k.force)) {
                     try {
                         if (clause.test == null || clause.test.of(asked)) told = clause.sum.of(asked);
@@ -724,6 +720,19 @@ public final class ModelTests {
         }
     }
 
+    /** Laws by which a change goes far and is not soon forgotten. */
+    private static final String[] MIXING = {
+        "weaves [left+was+1]-[left+was+1]/8*8",
+        "weaves [above*3+was+8]-[above*3+was+8]/8*8",
+        "weaves above if was=left; weaves left if above>was",
+        "weaves was+left-above",
+        "weaves was; weaves left if x/2*2=x and village/2*2=village; weaves above if y/2*2<y",
+        "weaves 7-was if seen=1; weaves left if not left=above and left>0",
+        "weaves [was+above+left+x+2]-[was+above+left+x+2]/8*8 if village<2 or seen=0",
+        "weaves was; weaves above if above>was and x<4; weaves left if left>above and x=5",
+        "weaves above if above>0-1",
+        "weaves left if left>0-1"};
+
     /** Draws calls, asks both, and tells where they part. */
     private static final class Run {
         final Random random;
@@ -776,9 +785,8 @@ public final class ModelTests {
         }
 
         String word() {
-            String[] words = {"x", "y", "village", "seen", "was", "left", "above", "taste", "year"};
             int kind = random.nextInt(14);
-            if (kind < 9) return words[kind];
+            if (kind < 9) return WORDS.get(kind);
             if (kind == 9) return "1000";
             return "" + random.nextInt(kind == 10 ? 1001 : 9);
         }
@@ -1048,6 +1056,50 @@ public final class ModelTests {
             }
         }
 
+        /** A rich road whose end was seen after a slip; then all that can be guessed of it. */
+        boolean guess() {
+            int villages = 1 + random.nextInt(5);
+            for (int i = 0; i < villages; i++) {
+                int x = random.nextInt(2);
+                int y = random.nextInt(2);
+                int w = 6 - x - random.nextInt(2);
+                int t = 6 - y - random.nextInt(2);
+                due("village(" + x + "," + y + "," + w + "," + t + ")", real.village(x, y, w, t), model.village(x, y, w, t));
+                int taste = random.nextInt(8);
+                due("put(" + i + ",0," + taste + ")", real.put(i, 0, taste), model.put(i, 0, taste));
+                int wool = random.nextInt(3) > 0 ? 255 : 1 + random.nextInt(255);
+                due("put(" + i + ",1," + wool + ")", real.put(i, 1, wool), model.put(i, 1, wool));
+            }
+            int colours = 2 + random.nextInt(7);
+            StringBuilder first = new StringBuilder("\0");
+            for (int i = 0; i < 36; i++) first.append((char) Math.min(7, random.nextInt(colours)));
+            write(first.toString());
+            due("row()", real.row(), model.row());
+            int kind = random.nextInt(MIXING.length + 1);
+            write(kind < MIXING.length ? MIXING[kind] : law());
+            due("law()", real.law(), model.law());
+            int force = model.k.laws.size() - 1;
+            due("force(" + force + ")", real.force(force), model.force(force));
+            List<int[]> all = model.road(model.k, random.nextInt(villages), random.nextInt(36), random.nextInt(8));
+            StringBuilder seen = new StringBuilder("\2");
+            for (int colour : all.get(all.size() - 1)) seen.append((char) colour);
+            due("end(0)", real.end(0), model.end(0));
+            write(seen.toString());
+            due("row()", real.row(), model.row());
+            List<Integer> slips = model.allSlips();
+            due("slips(-1)", real.slips(NONE), slips.size());
+            for (int i = 0; i < Math.min(40, slips.size()); i++) due("slips(" + i + ")", real.slips(i), slips.get(i));
+            for (int i = 0; i < 36; i++) {
+                due("lost(" + i + ")", real.lost(i), model.lost(i));
+                due("could(" + i + ")", real.could(i), model.could(i));
+            }
+            for (int what = 0; what < 3; what++) {
+                for (int n = 0; n < 4; n++) due("look(" + n + "," + what + ")", real.look(n, what), model.look(n, what));
+                due("gift(" + what + ")", real.gift(what), model.gift(what));
+            }
+            return !wrong;
+        }
+
         boolean play() {
             for (int i = 0; i < 460 && calls < 470 && !wrong; i++) {
                 if (i < 20 || random.nextInt(3) == 0) change();
@@ -1084,8 +1136,9 @@ public final class ModelTests {
         int calls = 0;
         for (int seed = first; seed < first + runs && right; seed++) {
             Run run = new Run(seed);
-            right = run.play();
-            calls += run.calls;
+            Run guess = new Run(2000000 + seed);
+            right = run.play() && guess.guess();
+            calls += run.calls + guess.calls;
         }
         System.out.println(calls + " drawn calls" + (right ? " are as the model's" : ", the last one is not as the model's"));
         if (!right) System.exit(1);
