@@ -377,6 +377,11 @@ public final class PromiseTests {
         faulty("weaves 1;;", 9);
         faulty("weaves [1)", 9);
         faulty("weaves wool", 7);
+        faulty("weaves xz", 7);
+        faulty("weaves 1 if x=x zx", 16);
+        faulty("weaves x{", 8);
+        faulty("weaves x`", 8);
+        faulty("weaves 1:", 8);
         faulty("weaves 1\t", 8);
         faulty("weaves 1 \u00e9", 9);
         faulty("weaves " + "[".repeat(9) + "x" + "]".repeat(9), 15);
@@ -786,6 +791,23 @@ public final class PromiseTests {
         due("law() behind it", law(k, "weaves 5"), 1);
         k.force(1);
         due("woven by the new law", k.woven(0, 0, 0), 5);
+        backToOtherLaws();
+    }
+
+    private static void backToOtherLaws() {
+        KeyholeWeave k = open(1);
+        k.image(0);
+        for (int i = 0; i < 6; i++) law(k, "weaves " + i);
+        k.image(1);
+        k.back(0);
+        due("count(1), no laws then", k.count(1), 0);
+        due("force(0), no laws then", k.force(0), -2);
+        for (int i = 0; i < 6; i++) law(k, "weaves 7");
+        k.back(1);
+        for (int i = 0; i < 6; i++) {
+            k.force(i);
+            due("woven by law " + i + " of then", k.woven(0, 0, 0), i);
+        }
     }
 
     private static void count() {
