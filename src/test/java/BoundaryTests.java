@@ -800,6 +800,11 @@ public final class BoundaryTests {
         k.terms(0, 100);
         k.weavers(4);
         for (int v = 0; v < 10; v++) due("drawn(" + v + ", NONE) with SLIP 100", k.drawn(v, NONE), 36);
+        k.weavers(4);
+        for (int v = 0; v < 10; v++) due("drawn(" + v + ", NONE) again", k.drawn(v, NONE), 36);
+        k.terms(0, 0);
+        k.weavers(4);
+        for (int v = 0; v < 10; v++) due("drawn(" + v + ", NONE) with SLIP 0 again", k.drawn(v, NONE), 0);
     }
 
     /** Who slips in a cell goes on by that: the cell to the right and the one below ask for what it wove. */
@@ -918,6 +923,34 @@ public final class BoundaryTests {
         for (int what : new int[] {0, 1, 7, 8, 9}) due("count(" + what + ")", k.count(what), other.count(what));
         for (int law = 0; law < 4; law++) due("force(" + law + ")", k.force(law), other.force(law));
         for (int colour = 0; colour < 8; colour++) due("price of " + colour, k.price(colour, 1), other.price(colour, 1));
+    }
+
+    private static void laterOnes() {
+        sentence = "BACK to one all that it keeps is as it was then: what came later is gone";
+        KeyholeWeave k = new KeyholeWeave();
+        k.image(0);
+        k.village(1, 1, 2, 2);
+        k.put(0, 0, 5);
+        k.put(0, 1, 6);
+        law(k, "weaves 5");
+        k.force(0);
+        k.image(1);
+        k.back(0);
+        due("count(0)", k.count(0), 0);
+        due("count(1)", k.count(1), 0);
+        due("count(7)", k.count(7), NONE);
+        due("of(0, 4)", k.of(0, 4), NONE);
+        due("force(0)", k.force(0), -2);
+        due("village() is the first again", k.village(0, 0, 6, 6), 0);
+        due("of(0, 4) of a new one", k.of(0, 4), 0);
+        due("of(0, 5) of a new one", k.of(0, 5), 255);
+        due("law() is the first again", law(k, "weaves 3"), 0);
+        k.force(0);
+        due("woven by the new one", k.woven(0, 0, 0), 3);
+        k.back(1);
+        due("of(0, 4) of the old one", k.of(0, 4), 5);
+        k.put(0, 1, 255);
+        due("woven by the old one", k.woven(0, 0, 0), 5);
     }
 
     private static void counts() {
@@ -1067,6 +1100,7 @@ public final class BoundaryTests {
         latestWeavers();
         images();
         imagesKeep();
+        laterOnes();
         counts();
         statusOfEach();
         calls();

@@ -58,6 +58,89 @@ public final class RoadBoundaryTests {
         for (int what = 3; what < 7; what++) due("count(" + what + ")", k.count(what), 0);
     }
 
+    private interface Change {
+        int on(KeyholeWeave k);
+    }
+
+    /** An answer of each call that asks for what comes of the first picture; weavers come last. */
+    private static int[] asked(KeyholeWeave k) {
+        return new int[] {k.woven(0, 0, 0), k.woven(2, 0, 0), k.woven(2, 35, 0), k.woven(0, 0, 1), k.woven(0, 35, 1),
+            k.woven(2, 20, 1), k.like(0, NONE), k.like(2, NONE), k.like(1, 2), k.costs(NONE), k.costs(0), k.turned(0),
+            k.turned(1), k.lost(0), k.lost(20), k.look(0, 0), k.look(2, 0), k.look(2, 1), k.look(3, 2), k.gift(0), k.gift(1),
+            k.gift(2), k.slips(NONE), k.slips(0), k.slips(1), k.could(0), k.could(20), k.meeting(0), k.meeting(1),
+            k.seams(NONE), k.seams(2), k.mend(0, 1, 7, 20, NONE, 0), k.mend(0, 1, 7, 20, NONE, 1), k.weavers(9),
+            k.drawn(0, NONE), k.drawn(2, 20), k.drawn(2, NONE)};
+    }
+
+    private static KeyholeWeave mixed() {
+        KeyholeWeave k = new KeyholeWeave();
+        k.village(0, 0, 6, 5);
+        k.village(1, 0, 5, 6);
+        k.village(0, 0, 6, 6);
+        k.put(1, 1, 255 - 4);
+        k.put(2, 1, 255 - 8 - 64);
+        tell(k, 0, "012345", "670123", "456701", "234567", "012345", "670123");
+        tell(k, 1, "765432", "107654", "321076", "543210", "765432", "107654");
+        write(k, "weaves 1+was if seen=1; weaves left+1 if left=3; weaves [year+village]/9 if y=4");
+        due("law()", k.law(), 0);
+        write(k, "weaves was if x<y; weaves above if above=5");
+        due("law()", k.law(), 1);
+        k.terms(0, 25);
+        k.image(1);
+        k.force(0);
+        StringBuilder seen = new StringBuilder("\2");
+        for (int cell = 0; cell < 36; cell++) seen.append((char) k.woven(2, cell, 0));
+        seen.setCharAt(22, (char) 2);
+        write(k, seen.toString());
+        k.row();
+        return k;
+    }
+
+    /** What was asked ahead of a change is asked anew behind it. */
+    private static void behind(String what, Change change) {
+        KeyholeWeave askedAhead = mixed();
+        asked(askedAhead);
+        KeyholeWeave fresh = mixed();
+        due(what, change.on(askedAhead), change.on(fresh));
+        int[] one = asked(askedAhead);
+        int[] other = asked(fresh);
+        int[] again = asked(fresh);
+        for (int i = 0; i < one.length; i++) {
+            due("answer " + i + " behind " + what, one[i], other[i]);
+            due("answer " + i + " again behind " + what, again[i], other[i]);
+        }
+    }
+
+    private static void anew() {
+        sentence = "what comes of the first picture is what comes of it now";
+        KeyholeWeave k = mixed();
+        due("slips(NONE) there are some", Math.min(1, k.slips(NONE)), 1);
+        behind("nothing", x -> 0);
+        behind("village", x -> x.village(0, 0, 6, 3));
+        behind("put, taste", x -> x.put(1, 0, 7));
+        behind("put, wool", x -> x.put(2, 1, 7));
+        behind("hole", x -> x.hole(2, 1, 1, 3, 3));
+        for (int which = 0; which < 3; which++) {
+            int w = which;
+            behind("paint(" + w + ", 0, 7)", x -> x.paint(w, 0, 7));
+            behind("paint(" + w + ", 20, 7)", x -> x.paint(w, 20, 7));
+            behind("row() of " + w, x -> rowOf(x, w));
+        }
+        behind("price", x -> x.price(3, 50));
+        behind("terms, SLIP", x -> x.terms(0, 90));
+        behind("terms, YEAR", x -> x.terms(1, 60));
+        behind("force(1)", x -> x.force(1));
+        behind("force(NONE)", x -> x.force(NONE));
+        behind("back", x -> x.back(1));
+        behind("image", x -> x.image(0));
+        behind("a refused one", x -> x.put(3, 0, 0));
+    }
+
+    private static int rowOf(KeyholeWeave k, int which) {
+        write(k, (char) which + "\7\6\5\4\3\2\1\0");
+        return k.row();
+    }
+
     private static void road() {
         sentence = "VILLAGE 0 sees the FIRST PICTURE, each other one what that ahead of it wove";
         KeyholeWeave k = open(10, 0);
@@ -289,6 +372,7 @@ public final class RoadBoundaryTests {
         due("of(9, 5) stays", k.of(9, 5), 255 - 8);
         quiet(k);
         quiet(none);
+        giftOfACell();
         sentence = "the greatest LIKENESS of the END then; the lowest VILLAGE, then COLOUR";
         KeyholeWeave ties = open(2, 4);
         ties.put(0, 1, 255 - 2 - 4);
@@ -305,6 +389,25 @@ public final class RoadBoundaryTests {
         ruleBy(worse, "weaves 5");
         due("like(0, NONE)", worse.like(0, NONE), 36);
         gifts(worse, 0, 0, 5);
+    }
+
+    /** A gift that only one cell needs, ahead of villages that see all. */
+    private static void giftOfACell() {
+        for (int cell : new int[] {0, 5, 6, 30, 35}) {
+            KeyholeWeave k = open(3, 0);
+            k.paint(0, cell, 7);
+            k.put(0, 1, 1);
+            due("like(2, NONE)", k.like(2, NONE), 35);
+            gifts(k, 36, 0, 7);
+            looks(k, 3, 35, 0, 1);
+            due("lost(" + cell + "), it has no more than it had", k.lost(cell), 7);
+            due("weavers() have no more than they had", slipless(k), 35);
+        }
+    }
+
+    private static int slipless(KeyholeWeave k) {
+        k.terms(0, 0);
+        return k.weavers(0);
     }
 
     private static void gifts(KeyholeWeave k, int likeness, int village, int colour) {
@@ -362,6 +465,25 @@ public final class RoadBoundaryTests {
         due("slips(NONE), it can't but go on", on.slips(NONE), 0);
         tell(on, 2, "000000", "000000", "000000", "000000", "000000", "000007");
         due("slips(0), the last cell has none to go on to", on.slips(0), 35 * 8 + 7);
+        KeyholeWeave down = open(1, 0);
+        ruleBy(down, "weaves above if above>0");
+        tell(down, 2, "300000", "300000", "300000", "300000", "300000", "300000");
+        due("slips(0), from the first cell to the last below it", down.slips(0), 3);
+        tell(down, 2, "000000", "000004", "000004", "000004", "000004", "000004");
+        due("slips(0), along the right side", down.slips(0), 11 * 8 + 4);
+        KeyholeWeave rising = open(1, 0);
+        ruleBy(rising, "weaves left+1");
+        tell(rising, 2, "012345", "123456", "012345", "012345", "012345", "012345");
+        due("slips(NONE), it goes on by what stood there one cell further", rising.slips(NONE), 1);
+        due("slips(0)", rising.slips(0), 6 * 8 + 1);
+        KeyholeWeave along = open(3, 0);
+        ruleBy(along, "weaves was+1; weaves left if left>5");
+        tell(along, 2, "333333", "333333", "337777", "333333", "333333", "333333");
+        // 5 in village 0 is 6 in the next, which goes on to the right; 7 is the most that there is.
+        int[] found = {14 * 8 + 5, 14 * 8 + 6, 14 * 8 + 7, 288 + 14 * 8 + 6, 288 + 14 * 8 + 7, 2 * 288 + 14 * 8 + 7};
+        due("slips(NONE), each village sees another picture", along.slips(NONE), found.length);
+        for (int i = 0; i < found.length; i++) due("slips(" + i + ")", along.slips(i), found[i]);
+        due("slips(6)", along.slips(6), NONE);
     }
 
     private static void could() {
@@ -383,6 +505,12 @@ public final class RoadBoundaryTests {
         due("could(0): 0 .. 4", k.could(0), 31);
         all(k, 2, 3);
         due("could(0), never", k.could(0), 0);
+        KeyholeWeave more = open(2, 3);
+        ruleBy(more, "weaves was+1");
+        all(more, 2, 5);
+        more.paint(2, 7, 6);
+        due("could(7), as its neighbours weave it later", more.could(7), 16);
+        due("could(8)", more.could(8), 0);
         quiet(k);
     }
 
@@ -395,6 +523,12 @@ public final class RoadBoundaryTests {
         meets(k, NONE, NONE);
         k.village(0, 0, 6, 6);
         meets(k, 0, 0);
+        k.put(0, 1, 2);
+        meets(k, 0, 0);
+        k.put(0, 1, 255);
+        k.put(1, 1, 2);
+        meets(k, 0, 36);
+        k.put(1, 1, 255);
         for (int i = 2; i < 10; i++) k.village(0, 0, 6, 6);
         meets(k, 0, 0);
         k.put(8, 1, 4);
@@ -473,6 +607,43 @@ public final class RoadBoundaryTests {
         quiet(k);
     }
 
+    private static int seamsOf(int[] p) {
+        int sum = 0;
+        for (int cell = 0; cell < 36; cell++) {
+            if (cell % 6 < 5 && p[cell] != p[cell + 1]) sum++;
+            if (cell < 30 && p[cell] != p[cell + 6]) sum++;
+        }
+        return sum;
+    }
+
+    /** Each cell alone and with the one beside it or below it, by trying all colours. */
+    private static void mendAnywhere() {
+        sentence = "the fewest SEAMS are left, wherever the CELLS lie";
+        String[] lines = {"012345", "335570", "146123", "757104", "260531", "423367"};
+        int[] p = new int[36];
+        for (int cell = 0; cell < 36; cell++) p[cell] = lines[cell / 6].charAt(cell % 6) - '0';
+        for (int first = 0; first < 36; first++) {
+            KeyholeWeave k = open(0, 0);
+            tell(k, 0, lines);
+            for (int step : new int[] {0, 1, 6, 35 - first}) {
+                int second = first + step;
+                if (second > 35) continue;
+                int best = 99;
+                int row = 0;
+                for (int colours = 0; colours < (step == 0 ? 8 : 64); colours++) {
+                    int[] q = p.clone();
+                    q[first] = step == 0 ? colours : colours / 8;
+                    q[second] = colours % 8;
+                    if (seamsOf(q) >= best) continue;
+                    best = seamsOf(q);
+                    row = colours;
+                }
+                if (step == 0) mended(k, new int[] {first}, best, row);
+                else mended(k, new int[] {second, first}, best, row / 8, row % 8);
+            }
+        }
+    }
+
     private static void mendRows() {
         sentence = "the fewest SEAMS of the whole PICTURE; the first as a row of COLOURS by rising CELLS, lower ones ahead";
         KeyholeWeave k = open(0, 0);
@@ -510,6 +681,7 @@ public final class RoadBoundaryTests {
     }
 
     public static void main(String[] args) {
+        anew();
         road();
         likeness();
         costs();
@@ -525,6 +697,7 @@ public final class RoadBoundaryTests {
         seams();
         mendCells();
         mendRows();
+        mendAnywhere();
         System.out.println(wrong == 0 ? "all answers are as due" : wrong + " answers are not as due");
         if (wrong != 0) System.exit(1);
     }

@@ -320,6 +320,21 @@ public final class TextBoundaryTests {
         weaves("weaves " + sumOf("1", 49) + "-44", 0, 5);
     }
 
+    private static void longLaws() {
+        sentence = "LAWS are TEXTS, 6 at most: each as long as may be";
+        KeyholeWeave k = new KeyholeWeave();
+        k.village(0, 0, 6, 6);
+        for (int i = 0; i < 6; i++) {
+            String text = "weaves " + sumOf("0", 49) + "+" + (i + 1);
+            due("law() with a fault", law(k, text + "+1"), -6);
+            due("law()", law(k, text), i);
+        }
+        for (int i = 0; i < 6; i++) {
+            k.force(i);
+            due("woven by law " + i, k.woven(0, 0, 0), i + 1);
+        }
+    }
+
     private static void brackets() {
         sentence = "8 brackets of both kinds within one another (FAULT at the 9th) at most";
         for (int round = 0; round <= 8; round++) {
@@ -460,6 +475,24 @@ public final class TextBoundaryTests {
         holds("(1=2 and 1/0=1) or 1=1");
         holdsNot("1=2 and 1/0=1");
         holdsNot("1=2 and 1=1 or 1=2");
+        holdsNot("not 1=1 and 1=1");
+        holds("not 1=2 and 1=1");
+        holds("not (not 1=1)");
+        holdsNot("not (not 1=2)");
+        holdsNot("not (not 1=2) and 1=1");
+        holds("not (not 1=1) or 1/0=1");
+        for (String yes : new String[] {"1<2", "2>1", "1=1", "not 2<1", "not 1>2", "not 1=2", "(1=1)", "not (1=2)"}) {
+            for (String no : new String[] {"2<1", "1>2", "1=2", "not 1<2", "not 2>1", "not 1=1", "(1=2)", "not (1=1)"}) {
+                holdsNot(yes + " and " + no);
+                holdsNot(no + " and " + yes);
+                holds(yes + " or " + no);
+                holds(no + " or " + yes);
+                holdsNot(no + " or " + no);
+                holds(yes + " and " + yes);
+                holds("not (" + no + " and 1/0=1)");
+                holds(yes + " or 1/0=1");
+            }
+        }
         holds("1=1 or 1=2 and 1=2");
         holdsNot("(1=1 or 1=2) and 1=2");
         holds("1=1 and 1=1 and 1=1");
@@ -487,6 +520,7 @@ public final class TextBoundaryTests {
         for (int cell = 0; cell < 36; cell++) {
             boolean in = cell < 12;
             weaves("weaves seen*6", cell, in ? 6 : 0);
+            weaves("weaves seen+2", cell, in ? 3 : 2);
             weaves("weaves was+2", cell, in ? 5 : 1);
             weaves("weaves taste-was", cell, in ? 2 : 6);
             weaves("weaves 7 if was<0", cell, in ? 3 : 7);
@@ -572,6 +606,7 @@ public final class TextBoundaryTests {
         grammar();
         numbers();
         parts();
+        longLaws();
         brackets();
         bracketKinds();
         broken();
