@@ -6,6 +6,8 @@ public final class KeyholeWeave {
 
     private static final int SIDE = 6;
     private static final int CELLS = 36;
+    // Sides between two cells: as many seams as a picture can have.
+    private static final int SIDES = 60;
     private static final int COLOURS = 8;
     private static final int VILLAGES = 10;
     private static final int LAWS = 6;
@@ -1096,7 +1098,7 @@ public final class KeyholeWeave {
         void mendAll(int[] eaten) {
             System.arraycopy(eaten, 0, picture, 0, CELLS);
             for (int i = 0; i < many; i++) picture[cells[i]] = NONE;
-            fewest = Integer.MAX_VALUE;
+            fewest = SIDES + 1;
             mendFrom(0, seamsOf(picture));
         }
 

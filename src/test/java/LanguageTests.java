@@ -12,6 +12,7 @@ import java.util.IdentityHashMap;
 import java.util.List;
 import java.util.Map;
 import java.util.Set;
+import java.util.TreeMap;
 import java.util.TreeSet;
 import java.util.regex.Matcher;
 import java.util.regex.Pattern;
@@ -86,21 +87,62 @@ public final class LanguageTests {
         Matcher imports = Pattern.compile("import ([^;]+);").matcher(text);
         while (imports.find()) check(imports.group(1).equals("java.util.Arrays"), "no import of " + imports.group(1));
         Matcher library = Pattern.compile("\\b(Math|Integer|Arrays|System)\\.(\\w+)").matcher(text);
-        Set<String> known = Set.of("Math.max", "Math.min", "Integer.bitCount", "Integer.MAX_VALUE", "Arrays.fill",
-            "Arrays.copyOf", "System.arraycopy");
+        Set<String> known = Set.of("Math.max", "Math.min", "Integer.bitCount", "Arrays.fill", "Arrays.copyOf",
+            "System.arraycopy");
         while (library.find()) check(known.contains(library.group()), "no " + library.group());
     }
 
-    /** A method ends at the first line that has its own indent and a closing brace. */
-    private static void lengths() throws IOException {
+    /** The class's methods, each with its lines; two classes' methods of one name stand together. */
+    private static Map<String, String> methods() throws IOException {
         String[] lines = source().split("\n");
-        Pattern start = Pattern.compile("^( +)(?:public |private |static |final )*[\\w\\[\\]]+ ?\\w*\\([^;]*\\) \\{$");
+        Pattern start = Pattern.compile("^( +)(?:public |private |static |final )*[\\w\\[\\]]+ ?(\\w*)\\([^;]*\\) \\{$");
+        Map<String, String> found = new TreeMap<>();
         for (int i = 0; i < lines.length; i++) {
             Matcher m = start.matcher(lines[i]);
             if (!m.matches() || lines[i].contains(" new ")) continue;
+            StringBuilder body = new StringBuilder();
             int j = i;
-            while (j < lines.length && !lines[j].equals(m.group(1) + "}")) j++;
+            // A method ends at the first line that has its own indent and a closing brace.
+            for (; j < lines.length && !lines[j].equals(m.group(1) + "}"); j++) {
+                if (j > i) body.append(lines[j]).append('\n');
+            }
             check(j - i <= 60, "line " + (i + 1) + ": the method is short");
+            found.merge(m.group(2), body.toString(), String::concat);
+        }
+        return found;
+    }
+
+    /** How many methods stand open at once behind this one, none of them twice. */
+    private static int depth(String name, Map<String, Set<String>> calls, List<String> open) {
+        if (open.contains(name)) return 0;
+        open.add(name);
+        int most = 0;
+        for (String called : calls.get(name)) most = Math.max(most, depth(called, calls, open));
+        open.remove(name);
+        return 1 + most;
+    }
+
+    private static void depths() throws IOException {
+        Map<String, String> methods = methods();
+        Map<String, Set<String>> calls = new TreeMap<>();
+        for (String name : methods.keySet()) {
+            Set<String> called = new TreeSet<>();
+            Matcher m = Pattern.compile("\\b(\\w+)\\(").matcher(methods.get(name));
+            while (m.find()) if (methods.containsKey(m.group(1))) called.add(m.group(1));
+            calls.put(name, called);
+        }
+        for (String one : FACE) {
+            String name = one.substring(0, one.indexOf(' '));
+            check(methods.containsKey(name), name + " is found");
+            if (!methods.containsKey(name)) continue;
+            int deep = depth(name, calls, new ArrayList<>());
+            check(deep <= 8, name + " goes at most eight deep: " + deep);
+        }
+        check(calls.get("slips").contains("findSlips") && calls.get("holds").contains("combine"), "calls are found");
+        List<Class<?>> all = new ArrayList<>(List.of(KeyholeWeave.class.getDeclaredClasses()));
+        all.add(KeyholeWeave.class);
+        for (Class<?> one : all) {
+            for (Method m : one.getDeclaredMethods()) check(methods.containsKey(m.getName()), m + " is found");
         }
     }
 
@@ -144,7 +186,7 @@ public final class LanguageTests {
     public static void main(String[] args) throws Exception {
         face();
         words();
-        lengths();
+        depths();
         room();
         System.out.println(wrong == 0 ? "the face and the rules are kept" : wrong + " rules are not kept");
         if (wrong != 0) System.exit(1);

@@ -671,6 +671,12 @@ public final class RoadBoundaryTests {
         tell(k, 0, "700000", "000000", "000000", "000000", "000000", "000007");
         mended(k, new int[] {35, 0}, 0, 0, 0);
         mended(k, new int[] {35}, 2, 0);
+        // As many seams as a picture can have: each of its sixty sides.
+        tell(k, 0, "010101", "101010", "010101", "101010", "010101", "101010");
+        mended(k, new int[] {}, 60);
+        mended(k, new int[] {0}, 58, 1);
+        mended(k, new int[] {7, 10, 25, 28, 14}, 40, 1, 0, 1, 0, 1);
+        tell(k, 0, "700000", "000000", "000000", "000000", "000000", "000007");
         k.village(0, 0, 6, 6);
         k.put(0, 1, 4 + 32);
         sentence = "MOTHS eat CELLS of the END; a MENDING puts a COLOUR in each";
